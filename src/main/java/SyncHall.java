@@ -104,7 +104,8 @@ public final class SyncHall {
         if (limit == 0.0) {
             return worker.finish(LATE);
         }
-        worker.aimFor(1, GOT);
+        worker.depthDue = 1;
+        worker.outcomeDue = GOT;
         gate.enqueue(worker, mode, now);
         worker.setEnd(now, limit);
         return worker.outcome;
@@ -134,7 +135,7 @@ public final class SyncHall {
             return worker.finish(INTERRUPTED);
         }
         Lock lock = condition.lock;
-        worker.aimFor(lock.depth, GOT);
+        worker.depthDue = lock.depth;
         lock.free();
         if (limit == 0.0) {
             queueForLock(worker, lock, LATE);
@@ -406,6 +407,7 @@ public final class SyncHall {
         private boolean hasEnd;
         private double end;
         private double since;
+        // One that awaited comes back to its LOCK at the old DEPTH, and learns only then how it ended.
         private int depthDue;
         private int outcomeDue;
         private boolean takesBack;
@@ -429,11 +431,6 @@ public final class SyncHall {
             outcome = result;
             takesBack = false;
             return result;
-        }
-
-        private void aimFor(int depth, int result) {
-            depthDue = depth;
-            outcomeDue = result;
         }
 
         private void setEnd(double start, double limit) {
@@ -585,23 +582,19 @@ public final class SyncHall {
             super(kind);
         }
 
-        @Override
         boolean canTake(Worker worker, int mode) {
             return owner == null || isAgain(worker);
         }
 
-        @Override
         boolean mustQueue(Worker worker, int mode) {
             return waiters.size() > 0 && !isAgain(worker);
         }
 
-        @Override
         void take(Worker worker, int mode, int steps) {
             owner = worker;
             depth += steps;
         }
 
-        @Override
         void giveBack(Worker worker, int mode) {
             checkOwner(worker, this);
             depth--;
@@ -610,7 +603,6 @@ public final class SyncHall {
             }
         }
 
-        @Override
         int holdOf(Worker worker) {
             return owner == worker ? depth : 0;
         }
@@ -634,22 +626,18 @@ public final class SyncHall {
             this.permits = permits;
         }
 
-        @Override
         boolean canTake(Worker worker, int mode) {
             return permits > 0;
         }
 
-        @Override
         boolean mustQueue(Worker worker, int mode) {
             return waiters.size() > 0;
         }
 
-        @Override
         void take(Worker worker, int mode, int depth) {
             permits--;
         }
 
-        @Override
         void giveBack(Worker worker, int mode) {
             if (permits >= MOST_PERMITS) {
                 throw new UnsupportedOperationException("there are no more permits than these");
@@ -657,12 +645,10 @@ public final class SyncHall {
             permits++;
         }
 
-        @Override
         Worker next() {
             return kind == RANKED ? waiters.firstOfGreatestPriority() : waiters.at(0);
         }
 
-        @Override
         int amount() {
             return permits;
         }
@@ -677,28 +663,23 @@ public final class SyncHall {
             this.count = count;
         }
 
-        @Override
         boolean canTake(Worker worker, int mode) {
             return count == 0;
         }
 
-        @Override
         boolean mustQueue(Worker worker, int mode) {
             return false;
         }
 
-        @Override
         void take(Worker worker, int mode, int depth) {
         }
 
-        @Override
         void giveBack(Worker worker, int mode) {
             if (count > 0) {
                 count--;
             }
         }
 
-        @Override
         int amount() {
             return count;
         }
@@ -715,20 +696,17 @@ public final class SyncHall {
             reads = new int[THREADS];
         }
 
-        @Override
         void checkWish(Worker worker, int mode) {
             if (mode == WRITE && reads[worker.number] > 0 && writer != worker) {
                 throw new UnsupportedOperationException("a reader can't become the writer");
             }
         }
 
-        @Override
         boolean canTake(Worker worker, int mode) {
             boolean noOtherWriter = writer == null || writer == worker;
             return noOtherWriter && (mode == READ || !othersRead(worker));
         }
 
-        @Override
         boolean mustQueue(Worker worker, int mode) {
             if (reads[worker.number] > 0 || writer == worker) {
                 return false;
@@ -736,7 +714,6 @@ public final class SyncHall {
             return mode == READ ? waiters.firstToWrite() != null : waiters.size() > 0;
         }
 
-        @Override
         void take(Worker worker, int mode, int steps) {
             if (mode == READ) {
                 reads[worker.number]++;
@@ -746,7 +723,6 @@ public final class SyncHall {
             }
         }
 
-        @Override
         void giveBack(Worker worker, int mode) {
             if (mode == READ) {
                 stopReading(worker);
@@ -755,13 +731,11 @@ public final class SyncHall {
             }
         }
 
-        @Override
         Worker next() {
             Worker writes = waiters.firstToWrite();
             return writes == null ? waiters.at(0) : writes;
         }
 
-        @Override
         int holdOf(Worker worker) {
             return (writer == worker ? depth : 0) + reads[worker.number];
         }
