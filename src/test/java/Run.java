@@ -14,6 +14,7 @@ final class Run {
     record Step(String place, String call, String due) {
     }
 
+    private static final int MOST_CALLS = 512;
     private static final Pattern HEADING = Pattern.compile("Promise \\d+: .*");
     private static final Pattern STEP = Pattern.compile("(?:(\\d+) x )?(.*\\)) = (\\S+)");
 
@@ -79,6 +80,9 @@ final class Run {
     /** Makes the calls, and tells of each answer that is not the one that is due. */
     List<String> wrongAnswers() {
         List<String> wrong = new ArrayList<>();
+        if (steps.size() > MOST_CALLS) {
+            wrong.add(file + " has a run of more than " + MOST_CALLS + " calls");
+        }
         SyncHall hall = new SyncHall();
         for (Step step : steps) {
             String got = Calls.answer(hall, step.call());
