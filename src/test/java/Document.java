@@ -4,6 +4,8 @@ import java.nio.file.Path;
 import java.nio.file.Paths;
 import java.util.ArrayList;
 import java.util.List;
+import java.util.Set;
+import java.util.TreeSet;
 import java.util.regex.Matcher;
 import java.util.regex.Pattern;
 
@@ -14,7 +16,10 @@ final class Document {
     // The two dots of a range such as 0 .. 5 end no sentence.
     private static final String SENTENCE_END = "(?<=[^.][.;])\\s";
 
+    private static final Pattern METHOD = Pattern.compile("public ([\\w ]+)\\(([^)]*)\\)(?: throws ([^;]*))?;");
+
     private String summary = "";
+    private String face = "";
     private String terms = "";
     private final List<String> promises = new ArrayList<>();
 
@@ -37,6 +42,8 @@ final class Document {
             promises.set(Integer.parseInt(promise.group(1)) - 1, words.replaceFirst("^ ?`[^`]*`: ?", ""));
         } else if (title.equals("What it is")) {
             summary = words;
+        } else if (title.equals("The public face")) {
+            face = words;
         } else if (title.equals("Terms")) {
             terms = words;
         }
@@ -44,6 +51,18 @@ final class Document {
 
     private static String plain(String text) {
         return text.replaceAll("```\\w*", "").replaceAll("\\s+", " ");
+    }
+
+    /** The constructor and the methods of the face: int tick(double) IllegalArgumentException. */
+    Set<String> face() {
+        Set<String> methods = new TreeSet<>();
+        Matcher method = METHOD.matcher(face);
+        while (method.find()) {
+            String parameters = method.group(2).replaceAll("(\\w+) \\w+", "$1");
+            String exceptions = method.group(3) == null ? "" : " " + method.group(3);
+            methods.add(method.group(1) + "(" + parameters + ")" + exceptions.replaceAll(",|java\\.util\\.", ""));
+        }
+        return methods;
     }
 
     int promiseCount() {

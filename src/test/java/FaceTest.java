@@ -1,3 +1,4 @@
+import java.io.IOException;
 import java.lang.reflect.Constructor;
 import java.lang.reflect.Executable;
 import java.lang.reflect.Field;
@@ -10,32 +11,12 @@ import java.util.stream.Collectors;
 
 /** The class shows the document's face and nothing more, and has no state that objects share. */
 public final class FaceTest {
-    private static final Set<String> DUE = new TreeSet<>(Arrays.asList(
-            "SyncHall()",
-            "int make(int, int, int) IllegalArgumentException NoSuchElementException IllegalStateException",
-            "void rank(int, double) IllegalArgumentException",
-            "int acquire(int, int, int, double) IllegalArgumentException NoSuchElementException"
-                    + " IllegalStateException UnsupportedOperationException",
-            "int release(int, int, int) IllegalArgumentException NoSuchElementException"
-                    + " IllegalStateException UnsupportedOperationException",
-            "int await(int, int, double) IllegalArgumentException NoSuchElementException"
-                    + " IllegalStateException UnsupportedOperationException",
-            "int signal(int, int, boolean) IllegalArgumentException NoSuchElementException"
-                    + " IllegalStateException UnsupportedOperationException",
-            "int interrupt(int) IllegalArgumentException",
-            "int tick(double) IllegalArgumentException",
-            "int policy(int) IllegalArgumentException",
-            "int thread(int, int) IllegalArgumentException",
-            "int sync(int, int) IllegalArgumentException NoSuchElementException",
-            "double waited(int) IllegalArgumentException NoSuchElementException ArithmeticException",
-            "double time()"));
-
     private static int wrong = 0;
 
-    public static void main(String[] args) {
+    public static void main(String[] args) throws IOException {
         want(Modifier.isFinal(SyncHall.class.getModifiers()), "the class is final");
         want(Modifier.isPublic(SyncHall.class.getModifiers()), "the class is public");
-        wantFace();
+        wantFace(Document.read().face());
         wantPrivateFields();
         wantOwnNames();
         wantNoSharedState(SyncHall.class);
@@ -54,7 +35,7 @@ public final class FaceTest {
         }
     }
 
-    private static void wantFace() {
+    private static void wantFace(Set<String> due) {
         Set<String> shown = new TreeSet<>();
         for (Constructor<?> constructor : SyncHall.class.getDeclaredConstructors()) {
             shown.add("SyncHall" + parameters(constructor) + exceptions(constructor));
@@ -66,7 +47,7 @@ public final class FaceTest {
                         + parameters(method) + exceptions(method));
             }
         }
-        want(shown.equals(DUE), "the face is " + DUE + ", but it was " + shown);
+        want(shown.equals(due), "the face is " + due + ", but it was " + shown);
     }
 
     private static String parameters(Executable call) {
